@@ -139,6 +139,9 @@ public final class ListTest {
         CHECK.due("modes() of the old list", x.modes(), 3);
         x.solve();
         CHECK.due("modes() of the new list", x.modes(), 2);
+        x = Networks.seventy();
+        x.solve();
+        CHECK.due("modes() of the longest list", x.modes(), 70);
     }
 
     private static void promise9Support() {
