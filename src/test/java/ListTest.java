@@ -103,13 +103,7 @@ public final class ListTest {
 
     /** Rates near the largest that can be, as quotients of determinants taken by another program. */
     private static void promise7LargeRates() {
-        FluxModes x = Networks.of(new int[][] {
-            {4, -9, 9, 9, -8, 9, 9},
-            {-1, 9, -9, -9, 9, 9, 9},
-            {1, 9, -8, 9, 9, 9, -9},
-            {-5, 9, 9, -9, -9, 8, -9},
-            {5, -9, 9, -9, 9, 9, -8},
-            {6, -9, -9, -8, -9, 9, -9}}, 127);
+        FluxModes x = Networks.large();
         CHECK.due("large: solve()", x.solve(), 1);
         isMode(x, 0, 127, 80458119, 35819029, 12096036, -6333273, -8160129, -16234866, 3278520);
         x.reversible(3, false);

@@ -35,7 +35,7 @@ public final class NetworkTest {
     private static void promise2Size() {
         for (int m = 0; m <= 6; m++) {
             for (int r = 1; r <= 8; r++) {
-                FluxModes x = full();
+                FluxModes x = Networks.full();
                 x.solve();
                 String call = "size(" + m + ", " + r + ")";
                 CHECK.due(call, x.size(m, r), true);
@@ -53,7 +53,7 @@ public final class NetworkTest {
                 CHECK.due(call + " no metabolite more", x.enter(m, r - 1, 1), false);
             }
         }
-        FluxModes x = full();
+        FluxModes x = Networks.full();
         x.size(1, 1);
         x.size(6, 8);
         entriesAreZero(x, "made small and large again");
@@ -81,7 +81,7 @@ public final class NetworkTest {
         x.size(6, 8);
         for (int i = 0; i < 6; i++) {
             for (int j = 0; j < 8; j++) {
-                CHECK.due("enter(" + i + ", " + j + ")", x.enter(i, j, mark(i, j)), true);
+                CHECK.due("enter(" + i + ", " + j + ")", x.enter(i, j, Networks.mark(i, j)), true);
             }
         }
         entriesAreMarked(x, "after all");
@@ -92,7 +92,7 @@ public final class NetworkTest {
     }
 
     private static void promise3Refused() {
-        FluxModes x = full();
+        FluxModes x = Networks.full();
         int[] badValues = {-10, 10, 11, 256, Integer.MIN_VALUE, Integer.MAX_VALUE};
         for (int v : badValues) {
             CHECK.due("enter(0, 0, " + v + ")", x.enter(0, 0, v), false);
@@ -109,7 +109,7 @@ public final class NetworkTest {
     }
 
     private static void promise4Entry() {
-        FluxModes x = full();
+        FluxModes x = Networks.full();
         entriesAreMarked(x, "entry");
         for (int odd : Networks.ODD) {
             CHECK.due("entry(" + odd + ", 0)", x.entry(odd, 0), 0);
@@ -164,30 +164,10 @@ public final class NetworkTest {
         }
     }
 
-    private static FluxModes full() {
-        FluxModes x = new FluxModes();
-        x.size(6, 8);
-        for (int i = 0; i < 6; i++) {
-            for (int j = 0; j < 8; j++) {
-                x.enter(i, j, mark(i, j));
-            }
-        }
-        for (int j = 0; j < 8; j++) {
-            x.reversible(j, true);
-        }
-        return x;
-    }
-
-    /** Another number for neighbours, and never 0. */
-    private static int mark(int i, int j) {
-        int v = (i * 8 + j) * 7 % 18 - 9;
-        return v < 0 ? v : v + 1;
-    }
-
     private static void entriesAreMarked(FluxModes x, String when) {
         for (int i = 0; i < 6; i++) {
             for (int j = 0; j < 8; j++) {
-                CHECK.due(when + ": entry(" + i + ", " + j + ")", x.entry(i, j), mark(i, j));
+                CHECK.due(when + ": entry(" + i + ", " + j + ")", x.entry(i, j), Networks.mark(i, j));
             }
         }
     }

@@ -42,4 +42,47 @@ final class Networks {
             {9, 4, 1, 0, 1, 4, 9, 1}};
         return of(rows, 255);
     }
+
+    /** One mode of all seven reactions, with rates near the largest that can be. */
+    static FluxModes large() {
+        return of(new int[][] {
+            {4, -9, 9, 9, -8, 9, 9},
+            {-1, 9, -9, -9, 9, 9, 9},
+            {1, 9, -8, 9, 9, 9, -9},
+            {-5, 9, 9, -9, -9, 8, -9},
+            {5, -9, 9, -9, 9, 9, -8},
+            {6, -9, -9, -8, -9, 9, -9}}, 127);
+    }
+
+    /** Seven reactions in a row, each taking what the one before makes: their rates rise from 8^6 to 9^6. */
+    static FluxModes chain() {
+        int[][] rows = new int[6][7];
+        for (int i = 0; i < 6; i++) {
+            rows[i][i] = 9;
+            rows[i][i + 1] = -8;
+        }
+        return of(rows, 0);
+    }
+
+    /** Six metabolites and eight reactions, each entry its mark, all reactions reversible. */
+    static FluxModes full() {
+        int[][] rows = new int[6][8];
+        for (int i = 0; i < 6; i++) {
+            for (int j = 0; j < 8; j++) {
+                rows[i][j] = mark(i, j);
+            }
+        }
+        return of(rows, 255);
+    }
+
+    /** Another number for neighbours, and never 0. */
+    static int mark(int i, int j) {
+        int v = (i * 8 + j) * 7 % 18 - 9;
+        return v < 0 ? v : v + 1;
+    }
+
+    static FluxModes solved(FluxModes x) {
+        x.solve();
+        return x;
+    }
 }
